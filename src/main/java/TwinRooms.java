@@ -736,7 +736,6 @@ public final class TwinRooms {
 
         void forget() {
             known = false;
-            orderSent = false;
         }
 
         boolean countsAsFree() {

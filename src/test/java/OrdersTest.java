@@ -230,7 +230,13 @@ public final class OrdersTest {
             nearestAre(x, room, 0, 1, 2, 0, -1);
             nearestAre(x, room, 0, 4, 3, -1);
             nearestAre(x, room, 0, 5, -1);
+            nearestAre(x, room, 0, 2, 0, -1);
         }
+        x.road(2, 0, 1);
+        x.road(4, 0, 30);
+        Steps.place(x, 5, 0, 0);
+        nearestAre(x, 0, 0, 0, 4, 5, 0, 1, 2, 3, -1);
+        nearestAre(x, 0, 1, 0, 4, 0, 1, 3, -1);
     }
 
     private static void nearestAre(TwinRooms x, int room, int skill, int junction, int... units) {

@@ -110,6 +110,7 @@ public final class RandomWalkTest {
         }
     }
 
+    /** These looks come on top of the 512 calls: the other object shows that they change nothing. */
     private void holds() {
         int letters = x.letters();
         sent += letters;

@@ -34,7 +34,7 @@ public final class TownTest {
                 Due.is("grantOf", 0, x.grantOf(room, d));
             }
             for (int u = 0; u < 6; u++) {
-                Steps.unitKnown(x, room, u, -1, -1, -1, -1);
+                Steps.unitKnown(x, room, u, -1, -1, -1, -1, -1);
             }
             Due.no("mount", x.mount(room));
         }
@@ -117,6 +117,11 @@ public final class TownTest {
         Due.no("a 31st again", x.road(0, 1, 10));
         x.unit(0, 11, 0);
         Due.is("eta", 20, x.eta(0, 2));
+        Due.yes("1 second", x.road(11, 0, 1));
+        Due.no("a 31st", x.road(0, 1, 1));
+        Due.yes("one of 1 second gone", x.road(11, 0, 0));
+        Due.yes("a 30th of 1 second", x.road(0, 1, 1));
+        Due.no("a 31st", x.road(11, 0, 1));
     }
 
     private static void ways() {
@@ -229,6 +234,8 @@ public final class TownTest {
         Due.is("questions(0)", 8, x.questions(0));
         x.card(0, 15, 2, 0);
         Due.is("the greatest number", 7, x.questions(0));
+        x.card(0, 0, 0, 1);
+        Due.is("a leaf again", 0, x.questions(0));
         Due.is("node 16", -1, x.questions(16));
         for (int wrong : Steps.WRONG) {
             Due.is("node", -1, x.questions(wrong));

@@ -166,11 +166,11 @@ public final class UnitsTest {
         x.status(0, FREE);
         x.deliver(3);
         x.crash(0);
-        Steps.unitKnown(x, 0, 0, -1, -1, -1, -1);
+        Steps.unitKnown(x, 0, 0, -1, -1, -1, -1, -1);
         x.deliver(0);
-        Steps.unitKnown(x, 0, 0, -1, -1, -1, -1);
+        Steps.unitKnown(x, 0, 0, -1, -1, -1, -1, -1);
         x.mount(0);
-        Steps.unitKnown(x, 0, 0, -1, -1, -1, -1);
+        Steps.unitKnown(x, 0, 0, -1, -1, -1, -1, -1);
         x.deliver(1);
         Steps.unitKnown(x, 0, 0, OUT, 0, -1, 1, 1);
     }
