@@ -2,8 +2,8 @@ import java.util.function.LongSupplier;
 
 /** Counts the answers that are not the ones that are due. */
 final class Due {
-    private static final long ARGUMENT = -1001;
-    private static final long STATE = -1002;
+    static final long ARGUMENT = -1001;
+    static final long STATE = -1002;
 
     private static int wrong;
     private static int checked;
@@ -61,7 +61,7 @@ final class Due {
     }
 
     /** Only the two exceptions of the document, and no subclass of them, stand for an answer. */
-    private static long answerOf(LongSupplier body) {
+    static long answerOf(LongSupplier body) {
         try {
             return body.getAsLong();
         } catch (RuntimeException e) {

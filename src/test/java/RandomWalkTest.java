@@ -1,17 +1,20 @@
 import java.util.Random;
 
 /**
- * Runs of 512 random calls, with wrong arguments among them: nothing but the document's exceptions
- * comes, the same calls answer the same, and what must hold after every call holds.
+ * Runs of random calls, with wrong arguments among them: nothing but the document's exceptions comes,
+ * the same calls answer the same, and what must hold after every call holds. Some calls are two or
+ * four, and looks come on top: together they are fewer than 512 for each object.
  */
 public final class RandomWalkTest {
-    private static final int RUNS = 600;
-    private static final int CALLS = 512;
+    private static final int RUNS = 1200;
+    private static final int CALLS = 320;
+    private static final int CUTS = 8;
 
+    private final int[] methods = new int[CALLS];
+    private final int[][] arguments = new int[CALLS][4];
+    private final long[] answers = new long[CALLS];
     private final Random random;
-    private final TwinRooms x = new TwinRooms();
-    private final TwinRooms same = new TwinRooms();
-    private final int[] args = new int[4];
+    private int[] args;
     private int sent;
 
     private RandomWalkTest(long seed) {
@@ -31,14 +34,32 @@ public final class RandomWalkTest {
     }
 
     private void goOn() {
+        TwinRooms x = new TwinRooms();
         for (int k = 0; k < CALLS; k++) {
-            int method = random.nextInt(40);
-            for (int a = 0; a < args.length; a++) {
-                args[a] = anyArgument();
+            methods[k] = random.nextInt(40);
+            for (int a = 0; a < 4; a++) {
+                arguments[k][a] = anyArgument();
             }
-            Due.is("the same call " + method, callOn(x, method), callOn(same, method));
-            holds();
+            answers[k] = callOf(x, k);
         }
+        holds(x);
+        for (int cut = 0; cut < CUTS; cut++) {
+            goAgain(random.nextInt(CALLS));
+        }
+    }
+
+    /** A new object gets the first calls of the walk, and is looked at. */
+    private void goAgain(int calls) {
+        TwinRooms x = new TwinRooms();
+        for (int k = 0; k < calls; k++) {
+            Due.is("the same call " + k, answers[k], callOf(x, k));
+        }
+        holds(x);
+    }
+
+    private long callOf(TwinRooms x, int k) {
+        args = arguments[k];
+        return callOn(x, methods[k]);
     }
 
     private int anyArgument() {
@@ -110,8 +131,7 @@ public final class RandomWalkTest {
         }
     }
 
-    /** These looks come on top of the 512 calls: the other object shows that they change nothing. */
-    private void holds() {
+    private void holds(TwinRooms x) {
         int letters = x.letters();
         sent += letters;
         Due.yes("0 .. 48 letters wait", letters >= 0 && letters <= 48);
@@ -122,11 +142,11 @@ public final class RandomWalkTest {
             int state = x.unitIs(u, 0);
             boolean atWork = state == 1 || state == 2;
             Due.yes("a unit at work has a call", atWork == x.unitIs(u, 2) >= 0);
-            Due.yes("no room knows more than the unit", known(u) <= x.unitIs(u, 4));
+            Due.yes("no room knows more than the unit", known(x, u) <= x.unitIs(u, 4));
         }
     }
 
-    private int known(int unit) {
+    private static int known(TwinRooms x, int unit) {
         return Math.max(x.unitKnown(0, unit, 3), x.unitKnown(1, unit, 3));
     }
 }
