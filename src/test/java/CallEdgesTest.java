@@ -248,6 +248,10 @@ public final class CallEdgesTest {
         BUSY.state("CLOSED, without a grade", x -> x.answer(0, 2, true));
         BUSY.state("it has a grade: yes", x -> x.answer(0, 0, true));
         BUSY.state("it has a grade: no", x -> x.answer(0, 0, false));
+        for (int grade : Edges.inside(1, 5)) {
+            Refusals graded = new Refusals(() -> graded(grade));
+            graded.state("it has grade " + grade, x -> x.answer(0, 0, true));
+        }
         Refusals moved = new Refusals(CallEdgesTest::movedAway);
         moved.state("its junction's district is another one now", x -> x.answer(0, 1, true));
         Refusals copied = new Refusals(CallEdgesTest::copied);
@@ -255,6 +259,15 @@ public final class CallEdgesTest {
         TwinRooms x = Scenes.busy();
         x.tick(37);
         Due.is("1950 since it asked", 5, x.answer(0, 1, true));
+    }
+
+    /** Call 0 has this grade, though its node is a question now. */
+    private static TwinRooms graded(int grade) {
+        TwinRooms x = Steps.charged();
+        x.card(0, 0, 0, grade);
+        x.take(0, 0, 0);
+        x.card(0, 1, 1, 0);
+        return x;
     }
 
     /** As busy, but calls 1 and 2 lie in a district that no room is in charge of. */
@@ -301,6 +314,9 @@ public final class CallEdgesTest {
     private static void changesUnderAnotherGrant() {
         Due.on("terms: one change more; 1, if the grant number is another one");
         TwinRooms x = Scenes.busy();
+        Due.is("call 1 is SURE", 1, x.callKnown(0, 1, 8));
+        x.take(0, 0, 8);
+        Steps.callIs(x, 0, 1, 0, 0, 0, 1, 1, 1, 1, 3, 0);
         Due.is("changes", 3, x.callKnown(0, 0, 7));
         x.take(0, 1, 7);
         Steps.callIs(x, 0, 0, 1, 1, 5, 1, 0, 1, 1, 4, 0);

@@ -74,8 +74,7 @@ public final class ClockEdgesTest {
         Due.is("tick(1000)", 50050, x.tick(1000));
         Due.is("tick(999)", 100000, x.tick(999));
         Due.is("tick(0)", 100000, x.tick(0));
-        Refusals busy = BUSY;
-        busy.answers("tick(0) changes nothing", 250, y -> (int) y.tick(0));
+        BUSY.answers("tick(0) changes nothing", 250, y -> (int) y.tick(0));
     }
 
     private static void noSuchTime() {

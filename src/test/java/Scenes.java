@@ -9,9 +9,9 @@ final class Scenes {
 
     /**
      * Letters of every kind wait. Room 0 is in charge of district 0, room 1 of 1. Call 0 (grade 5) has
-     * unit 0 MOVING to it; call 1 has no grade yet, and an ORDER waits for unit 1; call 2 is CLOSED without
-     * a grade; room 1 took call 8, and unit 2 is AT SCENE there. Unit 3 is OUT; unit 4 and unit 5 are FREE,
-     * but no room knows of unit 5. Room 1's clock has speed 49.
+     * unit 0 MOVING to it; call 1 has no grade yet, is SURE, and an ORDER waits for unit 1; call 2 is CLOSED
+     * without a grade; room 1 took call 8, and unit 2 is AT SCENE there. Unit 3 is OUT; unit 4 and unit 5
+     * are FREE, but no room knows of unit 5. Room 1's clock has speed 49.
      */
     static TwinRooms busy() {
         TwinRooms x = new TwinRooms();
@@ -75,6 +75,8 @@ final class Scenes {
         x.store(0, 1);
         x.store(1, 8);
         x.deliver(x.letters() - 2);
+        x.twin(x.letters() - 1);
+        x.deliver(x.letters() - 1);
         x.tick(2);
         x.ask(0, 0);
         x.deliver(x.letters() - 1);

@@ -86,14 +86,9 @@ public final class TownEdgesTest {
             Due.no("mount", x.mount(room));
             Due.yes("crash", x.crash(room));
         }
-        Steps.charge(chargedFirst(), 1, 3);
-    }
-
-    private static TwinRooms chargedFirst() {
-        TwinRooms x = new TwinRooms();
-        Steps.charge(x, 0, 3);
-        Due.is("the first grant", 1, x.grantOf(0, 3));
-        return x;
+        TwinRooms y = new TwinRooms();
+        Steps.charge(y, 1, 3);
+        Due.is("the first grant", 1, y.grantOf(1, 3));
     }
 
     private static void roadSeconds() {
@@ -181,6 +176,9 @@ public final class TownEdgesTest {
         Due.no("31 still", x.road(11, 0, 10));
         Due.yes("one is gone", x.road(0, 1, 0));
         Due.yes("it is gone already", x.road(0, 1, 0));
+        Due.yes("one of 1 second is gone", x.road(0, 2, 0));
+        Due.yes("the 29th again, of 1 second", x.road(0, 2, 1));
+        Due.yes("it has 999 now, and counts once", x.road(0, 2, 999));
         Due.yes("the 30th again", x.road(11, 0, 10));
         Due.no("31 again", x.road(0, 1, 10));
     }

@@ -49,6 +49,10 @@ final class Views {
             views.add((x, seen) -> speeds(x, r, 49, seen));
             views.add((x, seen) -> speeds(x, r, 50, seen));
             views.add((x, seen) -> hashes(x, r, seen));
+            for (int speed = 49; speed <= 51; speed++) {
+                int other = speed;
+                views.add((x, seen) -> lastSecond(x, r, other, seen));
+            }
             views.add((x, seen) -> asks(x, r, seen));
         }
         for (int node = 0; node < 16; node++) {
@@ -170,6 +174,15 @@ final class Views {
             x.tick(1);
             seen.add((long) x.grantOf(room, 3));
         }
+    }
+
+    /** In the busy scene, room 0 is in charge for 1999, 2000 or 2001 of its clock by this. */
+    private static void lastSecond(TwinRooms x, int room, int speed, List<Long> seen) {
+        x.speed(room, 50);
+        x.tick(37);
+        x.speed(room, speed);
+        x.tick(1);
+        seen.add((long) x.grantOf(room, room));
     }
 
     private static void hashes(TwinRooms x, int room, List<Long> seen) {
