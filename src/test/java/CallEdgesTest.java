@@ -18,6 +18,7 @@ public final class CallEdgesTest {
         wayOfSixty();
         whichCallsAreLinked();
         linkedWithoutBeingInCharge();
+        linkedByManyCalls();
         answerBounds();
         noSuchAnswer();
         answerRefused();
@@ -178,6 +179,16 @@ public final class CallEdgesTest {
         Steps.charge(x, 0, 2);
         Due.is("in charge of its district", 100, x.take(0, 0, 7));
         Due.is("linked", 1, x.callKnown(0, 0, 5));
+    }
+
+    private static void linkedByManyCalls() {
+        Due.on("what is said of 512 calls: the most that are linked");
+        TwinRooms x = Steps.charged();
+        x.take(0, 0, 7);
+        for (int k = 0; k < 490; k++) {
+            x.take(0, 0, 7);
+        }
+        Steps.callIs(x, 0, 0, 0, 0, 1, 0, -1, 490, 1, 491, 0);
     }
 
     private static TwinRooms callInAnotherDistrict() {

@@ -23,6 +23,7 @@ public final class UnitEdgesTest {
         orderInEachState();
         whichReportIsTaken();
         reportsAfterGoingDown();
+        serialAfterManyCalls();
         unitIsBounds();
         noSuchUnitIs();
         unitKnownBounds();
@@ -289,6 +290,21 @@ public final class UnitEdgesTest {
             x.deliver(serial - 1);
             Steps.unitKnown(x, 0, 5, FREE, serial, -1, serial, 0);
         }
+    }
+
+    private static void serialAfterManyCalls() {
+        Due.on("what is said of 512 calls: the highest serial");
+        TwinRooms x = new TwinRooms();
+        for (int k = 0; k < 505; k++) {
+            x.status(0, k % 2 == 0 ? OUT : FREE);
+        }
+        Due.is("letters", 48, x.letters());
+        Due.is("the last that waits", 24, x.letter(47, 4));
+        x.lose(46);
+        x.lose(46);
+        x.status(0, FREE);
+        Due.is("serial", 506, x.unitIs(0, 4));
+        Due.is("serial in the letter", 506, x.letter(47, 4));
     }
 
     private static void unitIsBounds() {
