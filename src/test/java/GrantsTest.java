@@ -1,3 +1,5 @@
+import java.util.Random;
+
 /** Promises 8 to 11: speed, tick, ask, grantOf; letters ASK and GRANT. */
 public final class GrantsTest {
 
@@ -15,6 +17,7 @@ public final class GrantsTest {
         clockOfARoomThatIsDown();
         copiesWithAGrant();
         wrongGrantOf();
+        oneRoomAtATime();
         Due.end();
     }
 
@@ -293,5 +296,46 @@ public final class GrantsTest {
             Due.is("room", 0, x.grantOf(wrong, 0));
             Due.is("district", 0, x.grantOf(0, wrong));
         }
+    }
+
+    /** Whatever happens to letters, clocks and rooms: no district is in the charge of both rooms. */
+    private static void oneRoomAtATime() {
+        Due.on("one room at a time");
+        Random random = new Random(1);
+        int[] inCharge = new int[2];
+        for (int run = 0; run < 400; run++) {
+            TwinRooms x = new TwinRooms();
+            for (int step = 0; step < 100; step++) {
+                anyStep(x, random, 1 + run % 4);
+                int first = x.grantOf(0, 0);
+                int second = x.grantOf(1, 0);
+                Due.no("both: " + first + " and " + second, first > 0 && second > 0);
+                inCharge[0] += first > 0 ? 1 : 0;
+                inCharge[1] += second > 0 ? 1 : 0;
+            }
+        }
+        Due.yes("room 0 was", inCharge[0] > 4000);
+        Due.yes("room 1 was", inCharge[1] > 4000);
+    }
+
+    private static void anyStep(TwinRooms x, Random random, int seconds) {
+        int room = random.nextInt(2);
+        int waiting = x.letters();
+        switch (random.nextInt(20)) {
+            case 0, 1, 2: x.tick(random.nextInt(7 * seconds)); break;
+            case 3: x.tick(seconds); break;
+            case 4: x.speed(room, 49 + random.nextInt(3)); break;
+            case 5: x.crash(random.nextInt(8)); break;
+            case 6, 7: x.mount(room); break;
+            case 8, 9, 10, 11: Due.answerOf(() -> askFor0(x, room)); break;
+            case 12: x.twin(random.nextInt(waiting + 1)); break;
+            case 13: x.lose(random.nextInt(waiting + 1)); break;
+            default: x.deliver(random.nextInt(waiting + 1)); break;
+        }
+    }
+
+    private static long askFor0(TwinRooms x, int room) {
+        x.ask(room, 0);
+        return 0;
     }
 }
