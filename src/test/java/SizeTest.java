@@ -11,7 +11,7 @@ public final class SizeTest {
     private static final int MOST_OBJECTS = 300;
     private static final int MOST_ELEMENTS = 3000;
     private static final int RUNS = 40;
-    private static final int CALLS = 400;
+    private static final int CALLS = 240;
 
     private final Map<Object, Boolean> objects = new IdentityHashMap<>();
     private int elements;
@@ -67,7 +67,7 @@ public final class SizeTest {
         Due.yes("bytes made by " + RUNS * CALLS + " calls: " + made, made < 4L * RUNS * CALLS);
     }
 
-    /** Some 400 calls that are not refused by an exception. */
+    /** Some 240 calls, none of them refused by an exception. */
     private static void work(TwinRooms x, Random random) {
         for (int call = 0; call < CALLS / 2; call++) {
             int a = random.nextInt(6);
