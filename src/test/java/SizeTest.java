@@ -6,7 +6,10 @@ import java.util.IdentityHashMap;
 import java.util.Map;
 import java.util.Random;
 
-/** All calls of a run live in one room: an object is small, it never grows, and calls make nothing. */
+/**
+ * All calls of a run live in one room: an object is small, it never grows, and calls that throw no
+ * exception make nothing.
+ */
 public final class SizeTest {
     private static final int MOST_OBJECTS = 300;
     private static final int MOST_ELEMENTS = 3000;
@@ -56,15 +59,24 @@ public final class SizeTest {
             return;
         }
         long made = 0;
+        long fresh = 0;
+        long busy = 0;
         for (int run = 0; run < RUNS; run++) {
-            TwinRooms x = Scenes.busy();
             Random random = new Random(run);
-            long before = threads.getCurrentThreadAllocatedBytes();
+            long start = threads.getCurrentThreadAllocatedBytes();
+            TwinRooms y = new TwinRooms();
+            long afterFresh = threads.getCurrentThreadAllocatedBytes();
+            TwinRooms x = Scenes.busy();
+            long afterBusy = threads.getCurrentThreadAllocatedBytes();
             work(x, random);
-            made += threads.getCurrentThreadAllocatedBytes() - before;
+            made += threads.getCurrentThreadAllocatedBytes() - afterBusy;
+            busy += afterBusy - afterFresh;
+            fresh += afterFresh - start;
+            Due.is("letters", 0, y.letters());
         }
-        // The measuring makes something itself; an object a call would be 16 bytes a call at least.
+        // Measuring may make something itself; an object a call would be 16 bytes a call at least.
         Due.yes("bytes made by " + RUNS * CALLS + " calls: " + made, made < 4L * RUNS * CALLS);
+        Due.yes("a busy object is a new one: " + busy + ", " + fresh, busy - fresh < 4L * RUNS * CALLS);
     }
 
     /** Some 240 calls, none of them refused by an exception. */
